@@ -10,6 +10,7 @@ public final class Samovar {
     private static final int MOST = 8;
     private static final int MOST_BYTES = 31;
     private static final int MOST_WATER = 30;
+    private static final int WATERS = MOST_WATER + 1;
     private static final int MOST_BREW = 40;
     private static final int MOST_NUMBER = 9;
 
@@ -25,7 +26,6 @@ public final class Samovar {
 
     private static final int ABSENT = 0, WAITS = 1, DRINKS = 2, CONTENT = 3, GONE = 4;
 
-    private static final int SHEETS = 4;
     private static final int FORMS = 3;
     private static final int MOST_ITEMS = 60;
     private static final int NULL = 1, INDEX = 2, CAST = 3, STORE = 4, SIZE = 5;
@@ -254,48 +254,21 @@ public final class Samovar {
         if (!fuel.entries.has(piece) || !within(what, 1)) {
             return BAD;
         }
-        int best = 0;
-        int most = NONE;
-        for (int kind = 0; kind < KINDS; kind++) {
-            int glasses = Trials.glassesIn(trials.withKind(piece, kind));
-            if (glasses > most) {
-                best = kind;
-                most = glasses;
-            }
-        }
-        return what == 0 ? best : most;
+        return mostGlasses(Trials.kindsOf(piece), KINDS, what);
     }
 
     public int fill(int what) {
         if (!within(what, 1)) {
             return BAD;
         }
-        int best = 0;
-        int most = NONE;
-        for (int water = 0; water <= MOST_WATER; water++) {
-            int glasses = Trials.glassesIn(trials.withWater(water));
-            if (glasses > most) {
-                best = water;
-                most = glasses;
-            }
-        }
-        return what == 0 ? best : most;
+        return mostGlasses(Trials.FIRST_WATER, WATERS, what);
     }
 
     public int come(int guest, int what) {
         if (!guests.entries.has(guest) || !within(what, 1)) {
             return BAD;
         }
-        int best = 0;
-        int most = NONE;
-        for (int minute = 0; minute < MINUTES; minute++) {
-            int glasses = Trials.glassesIn(trials.withMinute(guest, minute));
-            if (glasses > most) {
-                best = minute;
-                most = glasses;
-            }
-        }
-        return what == 0 ? best : most;
+        return mostGlasses(Trials.minutesOf(guest), MINUTES, what);
     }
 
     public int spare(int i) {
@@ -331,7 +304,7 @@ public final class Samovar {
     public int never() {
         int bits = 0;
         for (int i = 0; i < events.size && i < MOST; i++) {
-            if (comesOutAsSeen(trials.withoutEvents(1 << i))) {
+            if (comesOutAsSeen(trials.outcome(1 << i))) {
                 bits |= 1 << i;
             }
         }
@@ -339,33 +312,18 @@ public final class Samovar {
     }
 
     public int waters() {
-        int bits = 0;
-        for (int water = 0; water <= MOST_WATER; water++) {
-            if (comesOutAsSeen(trials.withWater(water))) {
-                bits |= 1 << water;
-            }
-        }
-        return bits;
+        return comingOutAsSeen(Trials.FIRST_WATER, WATERS);
     }
 
     public int kind(int piece) {
-        if (!fuel.entries.has(piece)) {
-            return BAD;
-        }
-        int bits = 0;
-        for (int kind = 0; kind < KINDS; kind++) {
-            if (comesOutAsSeen(trials.withKind(piece, kind))) {
-                bits |= 1 << kind;
-            }
-        }
-        return bits;
+        return fuel.entries.has(piece) ? comingOutAsSeen(Trials.kindsOf(piece), KINDS) : BAD;
     }
 
     public int ask() {
         int waters = waters();
         int all = Integer.bitCount(waters);
         int best = 0;
-        int least = MOST_WATER + 2;
+        int least = all;
         for (int minute = 0; minute < MINUTES; minute++) {
             int boiling = boilingWaters(waters, minute);
             int greatest = Math.max(boiling, all - boiling);
@@ -384,7 +342,7 @@ public final class Samovar {
         int n = Math.min(events.size, MOST);
         long above = 0;
         for (int left = 0; left < 1 << n; left++) {
-            if ((Trials.contentIn(trials.withoutEvents(left)) >> guest & 1) == 1) {
+            if ((Trials.contentIn(trials.outcome(left)) >> guest & 1) == 1) {
                 int missing = Integer.bitCount(left);
                 above += power(c, n - missing) * power(CHANCE_PARTS - c, missing);
             }
@@ -402,7 +360,7 @@ public final class Samovar {
         if (!within(n, MOST) || !within(what, 1)) {
             return BAD;
         }
-        long outcome = trials.withLots(seed, n);
+        long outcome = trials.outcomeByLots(seed, n);
         return what == 0 ? Trials.glassesIn(outcome) : Integer.bitCount(Trials.goneIn(outcome));
     }
 
@@ -587,19 +545,19 @@ public final class Samovar {
 
     /** The events that had better not be, as bits; NONE, if no two of them are enough. */
     private int sparedEvents() {
-        if (Trials.goneIn(trials.withoutEvents(0)) == 0) {
+        if (Trials.goneIn(trials.outcome(0)) == 0) {
             return 0;
         }
         int n = Math.min(events.size, MOST);
         for (int i = 0; i < n; i++) {
-            if (Trials.goneIn(trials.withoutEvents(1 << i)) == 0) {
+            if (Trials.goneIn(trials.outcome(1 << i)) == 0) {
                 return 1 << i;
             }
         }
         for (int i = 0; i < n; i++) {
             for (int j = i + 1; j < n; j++) {
                 int two = 1 << i | 1 << j;
-                if (Trials.goneIn(trials.withoutEvents(two)) == 0) {
+                if (Trials.goneIn(trials.outcome(two)) == 0) {
                     return two;
                 }
             }
@@ -621,6 +579,31 @@ public final class Samovar {
         return NONE;
     }
 
+    /** Of n trials: the first with most glasses (what = 0), or how many they are (1). */
+    private int mostGlasses(int from, int n, int what) {
+        int best = 0;
+        int most = NONE;
+        for (int i = 0; i < n; i++) {
+            int glasses = Trials.glassesIn(trials.outcome(from + i));
+            if (glasses > most) {
+                best = i;
+                most = glasses;
+            }
+        }
+        return what == 0 ? best : most;
+    }
+
+    /** Of n trials those by which all that was seen comes out so, as bits. */
+    private int comingOutAsSeen(int from, int n) {
+        int bits = 0;
+        for (int i = 0; i < n; i++) {
+            if (comesOutAsSeen(trials.outcome(from + i))) {
+                bits |= 1 << i;
+            }
+        }
+        return bits;
+    }
+
     private boolean comesOutAsSeen(long outcome) {
         int boiled = Trials.boiledIn(outcome);
         for (int i = 0; i < seen.size && i < MOST; i++) {
@@ -633,9 +616,9 @@ public final class Samovar {
 
     private int boilingWaters(int waters, int minute) {
         int boiling = 0;
-        for (int water = 0; water <= MOST_WATER; water++) {
+        for (int water = 0; water < WATERS; water++) {
             if ((waters >> water & 1) == 1) {
-                boiling += Trials.boiledIn(trials.withWater(water)) >> minute & 1;
+                boiling += Trials.boiledIn(trials.outcome(Trials.FIRST_WATER + water)) >> minute & 1;
             }
         }
         return boiling;
@@ -1026,15 +1009,17 @@ public final class Samovar {
     }
 
     /**
-     * Evenings with one thing other than told. How each came out is kept until something is told,
-     * as many questions ask for the same ones: in a long, with the minutes in which it boiled in
-     * bits 0 to 23, who is content in 24 to 31, who is gone in 32 to 39, the glasses in 40 to 47.
+     * Evenings with one thing other than told. They are numbered: first those without some of the
+     * events (the events, as bits), then those with another water, with another kind of a piece,
+     * with another minute of a guest. How one came out is kept until something is told, as many
+     * questions ask for the same ones: in a long, with the minutes in which it boiled in bits 0 to
+     * 23, who is content in 24 to 31, who is gone in 32 to 39, the glasses in 40 to 47.
      */
     private static final class Trials {
-        private static final int WATERS_FROM = 1 << MOST;
-        private static final int KINDS_FROM = WATERS_FROM + MOST_WATER + 1;
-        private static final int MINUTES_FROM = KINDS_FROM + MOST * KINDS;
-        private static final int ALL = MINUTES_FROM + MOST * MINUTES;
+        static final int FIRST_WATER = 1 << MOST;
+        private static final int FIRST_KIND = FIRST_WATER + WATERS;
+        private static final int FIRST_MINUTE = FIRST_KIND + MOST * KINDS;
+        private static final int ALL = FIRST_MINUTE + MOST * MINUTES;
         /** Tells an outcome that is known from 0, which is kept for one that is not. */
         private static final long KNOWN = 1L << 48;
 
@@ -1046,6 +1031,14 @@ public final class Samovar {
 
         Trials(Plan told) {
             this.told = told;
+        }
+
+        static int kindsOf(int piece) {
+            return FIRST_KIND + piece * KINDS;
+        }
+
+        static int minutesOf(int guest) {
+            return FIRST_MINUTE + guest * MINUTES;
         }
 
         static int boiledIn(long outcome) {
@@ -1071,59 +1064,36 @@ public final class Samovar {
             }
         }
 
-        long withoutEvents(int left) {
-            if (!within(left, WATERS_FROM - 1)) {
+        long outcome(int trial) {
+            if (trial < 0 || trial >= ALL) {
                 return 0;
             }
-            if (outcomes[left] == 0) {
+            if (outcomes[trial] == 0) {
                 other.becomeLike(told);
-                other.left = left;
-                outcomes[left] = outcome();
+                alter(trial);
+                evening.pass(other);
+                outcomes[trial] = pack(evening);
+                empty = false;
             }
-            return outcomes[left];
+            return outcomes[trial];
         }
 
-        long withWater(int water) {
-            if (!within(water, MOST_WATER)) {
-                return 0;
+        private void alter(int trial) {
+            if (trial < FIRST_WATER) {
+                other.left = trial;
+            } else if (trial < FIRST_KIND) {
+                other.water = trial - FIRST_WATER;
+            } else if (trial < FIRST_MINUTE) {
+                int i = trial - FIRST_KIND;
+                other.fuel.kind[i / KINDS] = i % KINDS;
+            } else if (trial < ALL) {
+                int i = trial - FIRST_MINUTE;
+                other.guests.minute[i / MINUTES] = i % MINUTES;
             }
-            int key = WATERS_FROM + water;
-            if (outcomes[key] == 0) {
-                other.becomeLike(told);
-                other.water = water;
-                outcomes[key] = outcome();
-            }
-            return outcomes[key];
-        }
-
-        long withKind(int piece, int kind) {
-            if (!told.fuel.has(piece) || !within(kind, KINDS - 1)) {
-                return 0;
-            }
-            int key = KINDS_FROM + piece * KINDS + kind;
-            if (outcomes[key] == 0) {
-                other.becomeLike(told);
-                other.fuel.kind[piece] = kind;
-                outcomes[key] = outcome();
-            }
-            return outcomes[key];
-        }
-
-        long withMinute(int guest, int minute) {
-            if (!told.guests.has(guest) || !within(minute, LAST_MINUTE)) {
-                return 0;
-            }
-            int key = MINUTES_FROM + guest * MINUTES + minute;
-            if (outcomes[key] == 0) {
-                other.becomeLike(told);
-                other.guests.minute[guest] = minute;
-                outcomes[key] = outcome();
-            }
-            return outcomes[key];
         }
 
         /** This one is not kept: there are as many as there are seeds. */
-        long withLots(int seed, int n) {
+        long outcomeByLots(int seed, int n) {
             other.becomeLike(told);
             other.guests.size = 0;
             int s = seed;
@@ -1135,16 +1105,15 @@ public final class Samovar {
                 s = nextSeed(s);
                 other.guests.add(minute, dark, (s >>> 16) % 4 + 1);
             }
-            return outcome();
+            evening.pass(other);
+            return pack(evening);
         }
 
         private static int nextSeed(int seed) {
             return 1103515245 * seed + 12345;
         }
 
-        private long outcome() {
-            empty = false;
-            evening.pass(other);
+        private static long pack(Evening evening) {
             Company company = evening.company;
             return KNOWN | (long) company.glasses << 40 | (long) company.gone << 32
                     | (long) company.content << 24 | evening.boiled;
