@@ -73,6 +73,10 @@ public final class MinutesTest {
             due(14, "line(" + minute + ")", s.line(minute), wants[minute]);
         }
         due(14, "line(23)", s.line(23), 0);
+        Checks.retell(s, 1, "ww1;xw1");
+        due(14, "line(23)", s.line(23), 2);
+        s.set(1, 5);
+        due(14, "line(22), of another evening", s.line(22), 1);
     }
 
     private static void sums() {

@@ -266,6 +266,9 @@ public final class SheetsTest {
         s.sheet(0, 0, 5);
         due(39, "digest() behind a finding", s.digest(), before);
         s.type(1, 0);
-        due(39, "digest()", s.digest(), told(s));
+        due(39, "digest() with a fault of text 1", s.digest(), told(s));
+        s.undo(1);
+        s.type(0, 0);
+        due(39, "digest() with a fault of text 0", s.digest(), told(s));
     }
 }
