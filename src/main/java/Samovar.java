@@ -148,7 +148,7 @@ public final class Samovar {
         if (sheet.lost) {
             return found(NULL);
         }
-        events.size = 0;
+        int before = events.size;
         for (int i = 0; i + 2 < sheet.size && events.size < MOST; i += 3) {
             int kind = sheet.item(i);
             int minute = sheet.item(i + 1);
@@ -159,7 +159,7 @@ public final class Samovar {
             events.add(minute, kind, number);
         }
         changed();
-        return events.size;
+        return events.size - before;
     }
 
     // ---- minutes

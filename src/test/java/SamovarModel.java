@@ -265,11 +265,12 @@ final class SamovarModel {
     long read(int s) {
         if (!in(s, 0, 3)) return -2;
         if (sheets[s] == null) return found(1);
-        events.clear();
+        int read = 0;
         for (int i = 0; i + 3 <= length(sheets[s]); i += 3) {
             if (event(item(sheets[s], i), item(sheets[s], i + 1), item(sheets[s], i + 2)) < 0) break;
+            read++;
         }
-        return events.size();
+        return read;
     }
 
     long at(int minute, int what) {

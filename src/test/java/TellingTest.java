@@ -16,6 +16,8 @@ public final class TellingTest {
         event();
         back();
         read();
+        readBehindTold();
+        readComesLast();
         readStops();
         refusalsChangeNothing();
         checks.end();
@@ -247,19 +249,69 @@ public final class TellingTest {
         due(11, "count(3)", s.count(3), 2);
         due(11, "at(5, 1)", s.at(5, 1), 23);
         due(11, "at(6, 2)", s.at(6, 2), 25);
-        due(11, "read(3) once more", s.read(3), 2);
-        due(11, "count(3)", s.count(3), 2);
-        fillSheet(s, 1, 0, 1, 6, 1, 0, 7, 0);
-        due(11, "read(1) of six items", s.read(1), 2);
-        due(11, "at(6, 2)", s.at(6, 2), 17);
         s.sheet(1, 0, 2);
         due(11, "read(1) of two items", s.read(1), 0);
-        due(11, "count(3)", s.count(3), 0);
+        due(11, "count(3) behind none read", s.count(3), 2);
+        due(11, "at(6, 2) behind none read", s.at(6, 2), 25);
+        s.sheet(1, 0, 0);
+        due(11, "read(1) of no items", s.read(1), 0);
+        due(11, "count(3)", s.count(3), 2);
+        s.lose(1);
+        due(11, "read(1), lost", s.read(1), NULL);
+        due(11, "count(3) behind a refusal", s.count(3), 2);
         s.sheet(2, 2, 60);
-        due(11, "read(2) of sixty items", s.read(2), 8);
+        due(11, "read(2) of sixty items, two told before", s.read(2), 6);
         due(11, "count(3)", s.count(3), 8);
-        due(11, "read(0)", s.read(0), NULL);
+        Samovar empty = new Samovar();
+        empty.sheet(2, 2, 60);
+        due(11, "read(2) of sixty items, none told before", empty.read(2), 8);
+        due(11, "count(3)", empty.count(3), 8);
+    }
+
+    /** Nothing says that events told before are undone: those of a sheet come behind them. */
+    private static void readBehindTold() {
+        Samovar s = new Samovar();
+        s.event(1, 6, 1);
+        fillSheet(s, 0, 1, 0, 5, 7, 1, 6, 9);
+        due(11, "read(0) behind one told", s.read(0), 2);
+        due(11, "count(3)", s.count(3), 3);
+        due(11, "never()", s.never(), 7);
+        due(11, "at(5, 1)", s.at(5, 1), 23);
+        due(11, "at(6, 2)", s.at(6, 2), 26);
+        due(11, "read(0) once more", s.read(0), 2);
+        due(11, "count(3)", s.count(3), 5);
+        due(11, "at(5, 1), to 30 at most", s.at(5, 1), 30);
+        due(11, "at(6, 2)", s.at(6, 2), 35);
+        due(11, "back()", s.back(), 4);
+        due(11, "at(6, 2) without the last one", s.at(6, 2), 26);
+        due(11, "event(2, 0, 0)", s.event(2, 0, 0), 5);
+        due(11, "event(2, 1, 0)", s.event(2, 1, 0), 6);
+        due(11, "event(2, 2, 0)", s.event(2, 2, 0), 7);
+        due(11, "read(0), one place left", s.read(0), 1);
         due(11, "count(3)", s.count(3), 8);
+        due(11, "at(6, 2), the second one left out", s.at(6, 2), 26);
+        due(11, "read(0), no place left", s.read(0), 0);
+        due(11, "count(3)", s.count(3), 8);
+        due(11, "count(8)", s.count(8), 0);
+        due(11, "back()", s.back(), 7);
+    }
+
+    /** back() undoes the last event, so it shows whether those of a sheet come behind or ahead. */
+    private static void readComesLast() {
+        Samovar told = Checks.told("ab3;ab3", "aw2", 28, 16);
+        told.event(0, 4, 1);
+        told.event(0, 4, 9);
+        Samovar read = Checks.told("ab3;ab3", "aw2", 28, 16);
+        read.event(0, 4, 1);
+        fillSheet(read, 0, 0, 0, 4, 9);
+        read.read(0);
+        due(11, "digest() of told and read alike", read.digest(), told.digest());
+        read.back();
+        told.back();
+        due(11, "digest() behind back(): the one read is undone", read.digest(), told.digest());
+        // 29 glasses, hot enough to boil (68 - 4 + 24 - 7), and one is served; with the other event it would be 30.
+        due(11, "at(4, 0) behind back()", read.at(4, 0), 81);
+        due(11, "at(4, 1) behind back()", read.at(4, 1), 28);
     }
 
     private static void readStops() {
@@ -269,6 +321,10 @@ public final class TellingTest {
             fillSheet(s, 0, 0, 1, 2, 3, wrong[0], wrong[1], wrong[2], 2, 23, 9);
             due(11, "read(0) with a wrong second event", s.read(0), 1);
             due(11, "at(2, 2)", s.at(2, 2), 19);
+            due(11, "count(3)", s.count(3), 1);
+            fillSheet(s, 0, 0, wrong);
+            due(11, "read(0) with a wrong first event", s.read(0), 0);
+            due(11, "count(3), the one told before stays", s.count(3), 1);
         }
     }
 
