@@ -106,6 +106,10 @@ public final class EdgesOfMinutesTest {
         due("is(23, 0, 1)", s.is(23, 0, 1), 4);
         due("is(22, 1, 1), not there yet", s.is(22, 1, 1), 0);
         due("is(23, 1, 1)", s.is(23, 1, 1), 1);
+        Samovar eight = Checks.hotAllEvening("aw1;aw1;aw1;aw1;aw1;aw1;gw1;gw2", 40);
+        due("is(6, 7, 1) of the eighth", eight.is(6, 7, 1), 0);
+        due("is(7, 7, 1) of the eighth", eight.is(7, 7, 1), 1);
+        due("is(23, 7, 1) of the eighth", eight.is(23, 7, 1), 2);
     }
 
     private static void lineLength() {
@@ -117,6 +121,12 @@ public final class EdgesOfMinutesTest {
         due("line(23)", s.line(23), 0);
         due("line(0) without guests", new Samovar().line(0), 0);
         due("line(3), one came and was served", hot("dw2", 4).line(3), 0);
+        // Who is in the line at the end of one evening is not there at the beginning of another.
+        Samovar again = Checks.told("", "xw1;xw1", 16, 16);
+        due("line(23) of two", again.line(23), 2);
+        again.set(0, 15);
+        due("line(0) of another evening", again.line(0), 0);
+        due("line(23) of another evening", again.line(23), 2);
     }
 
     private static void glassesOfAll() {
@@ -317,6 +327,7 @@ public final class EdgesOfMinutesTest {
         // A kind, a minute, a number, in this order.
         Samovar s = new Samovar();
         sheetOf(s, 1, 0, 1, 2, 3);
+        due("at(2, 2) ahead of it", s.at(2, 2), 16);
         s.read(1);
         due("at(1, 2)", s.at(1, 2), 16);
         due("at(2, 2)", s.at(2, 2), 19);

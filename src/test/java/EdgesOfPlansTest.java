@@ -15,6 +15,7 @@ public final class EdgesOfPlansTest {
         fillOfLikeOnes();
         comeInPlaceOfOnesOwn();
         comeOfLikeOnes();
+        theEighth();
         spareNone();
         spareOne();
         spareTwo();
@@ -155,6 +156,32 @@ public final class EdgesOfPlansTest {
         due("come(0, 1)", Checks.told("gb3;gb3", "xw1", 4, 16).come(0, 1), 1);
     }
 
+    private static void theEighth() {
+        sentence("BETTER of a PIECE; COME of one of GUESTS; KIND of a PIECE: the eighth (7)");
+        // It boils by two birches, from 3 to 14, and not for those who wait in 16 to 21; cones in 23 change nothing.
+        Samovar s = Checks.told("xk1;xk1;xk1;xk1;xk1;xk1;ab3;ak3", "qw1;qw1;qw1;qw1;qw1;qw1;qw1;qw1", 4, 16);
+        due("better(7, 0), of like ones", s.better(7, 0), 0);
+        due("better(7, 1), of like ones", s.better(7, 1), 0);
+        s.seen(3, 1);
+        due("kind(7)", s.kind(7), 2);
+        due("kind(6)", s.kind(6), 0);
+        due("kind(0)", s.kind(0), 0);
+        // With it as birch one who comes in 0 is served in 3, two of them in 3 and 4.
+        Checks.retell(s, 0, "xk1;xk1;xk1;xk1;xk1;xk1;ab3;ab3");
+        due("come(7, 0)", s.come(7, 0), 0);
+        due("come(7, 1)", s.come(7, 1), 1);
+        due("come(0, 1)", s.come(0, 1), 1);
+        due("better(7, 1)", s.better(7, 1), 0);
+        Checks.retell(s, 1, "qw1;qw1;qw1;qw1;qw1;qw1;qw1;aw1");
+        due("better(7, 0)", s.better(7, 0), 1);
+        due("better(7, 1)", s.better(7, 1), 1);
+        due("better(6, 0)", s.better(6, 0), 1);
+        due("better(0, 1)", s.better(0, 1), 1);
+        due("come(7, 0)", s.come(7, 0), 0);
+        due("come(6, 0)", s.come(6, 0), 0);
+        due("come(6, 1)", s.come(6, 1), 2);
+    }
+
     private static void spares(Samovar s, int many, int first, int second) {
         due("spare(-1)", s.spare(-1), many);
         due("spare(0)", s.spare(0), first);
@@ -195,6 +222,12 @@ public final class EdgesOfPlansTest {
         Samovar cold = Checks.told("", "sw1", 16, 16);
         cold.event(0, 3, 9);
         spares(cold, NONE, NONE, NONE);
+        // Eight of them that do nothing, as there are 30 glasses: 12 in each minute is too slow without any two.
+        Samovar eight = Checks.told("ab3;ab2", "aw1", 30, 16);
+        for (int i = 0; i < 8; i++) {
+            eight.event(0, 0, 1);
+        }
+        spares(eight, NONE, NONE, NONE);
     }
 
     private static void spareLeastRow() {
@@ -278,21 +311,27 @@ public final class EdgesOfPlansTest {
     private static void kindAsBits() {
         sentence("KIND of a PIECE: 0 to 2, in place of its own, likewise, as bits");
         for (String own : new String[] {"k", "b", "c"}) {
-            Samovar s = Checks.told("ab3;a" + own + "3", "", 4, 16);
-            due("kind(1), nothing seen", s.kind(1), 7);
-            s.seen(4, 0);
-            due("kind(1), cones", s.kind(1), 1);
-            s.forget();
-            s.seen(3, 1);
-            due("kind(1), birch", s.kind(1), 2);
-            s.forget();
-            s.seen(3, 0);
-            s.seen(4, 1);
-            due("kind(1), charcoal", s.kind(1), 4);
-            s.seen(0, 1);
-            due("kind(1), of what cannot be", s.kind(1), 0);
-            due("piece(1, 1), as told", s.piece(1, 1), "kbc".indexOf(own));
+            kindOf(0, Checks.told("a" + own + "3;ab3", "", 4, 16), "kbc".indexOf(own));
+            kindOf(1, Checks.told("ab3;a" + own + "3", "", 4, 16), "kbc".indexOf(own));
         }
+    }
+
+    /** Beside three birches it boils by birch from 3 on, by charcoal from 4 on, by cones never. */
+    private static void kindOf(int piece, Samovar s, int told) {
+        String call = "kind(" + piece + "), ";
+        due(call + "nothing seen", s.kind(piece), 7);
+        s.seen(4, 0);
+        due(call + "cones", s.kind(piece), 1);
+        s.forget();
+        s.seen(3, 1);
+        due(call + "birch", s.kind(piece), 2);
+        s.forget();
+        s.seen(3, 0);
+        s.seen(4, 1);
+        due(call + "charcoal", s.kind(piece), 4);
+        s.seen(0, 1);
+        due(call + "of what cannot be", s.kind(piece), 0);
+        due("piece(" + piece + ", 1), as told", s.piece(piece, 1), told);
     }
 
     private static void askLeast() {

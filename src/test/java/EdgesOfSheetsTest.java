@@ -603,7 +603,20 @@ public final class EdgesOfSheetsTest {
 
     private static void digestWraps() {
         sentence("h is 17; h becomes 31 h and each of: ..; as longs that wrap");
-        for (Samovar s : new Samovar[] {new Samovar(), rich(), Checks.hotAllEvening("aw1", 40)}) {
+        // A fault in one text, in the other; one event that had better not be; evenings of other numbers are unlike.
+        Samovar fuel = Checks.told("ak1;", "aw1", 16, 16);
+        Samovar guests = Checks.told("ak1", "aw1;bw", 16, 16);
+        Samovar spared = Checks.told("ab3;ab3", "aw1", 4, 16);
+        spared.event(0, 3, 9);
+        due("spare(0)", spared.spare(0), 0);
+        due("spare(1)", spared.spare(1), NONE);
+        Samovar drunk = Checks.told("ab3;ab3;fc3", "", 30, 16);
+        Samovar cold = new Samovar();
+        for (int n = 5; n <= 7; n++) {
+            due("evenings(7, " + n + ", 0)", drunk.evenings(7, n, 0), n);
+            due("evenings(7, " + n + ", 1)", cold.evenings(7, n, 1), n);
+        }
+        for (Samovar s : new Samovar[] {rich(), fuel, guests, spared, drunk, cold}) {
             long digest = s.digest();
             due("digest()", digest, digestOf(s));
             s.lose(3);

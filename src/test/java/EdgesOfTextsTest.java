@@ -366,6 +366,7 @@ public final class EdgesOfTextsTest {
             due("wipe(" + text + ")", s.wipe(text), BAD);
         }
         due("count(2)", s.count(2), 62);
+        due("at(0, 3)", s.at(0, 3), 3);
         due("wipe(0) of a full text", s.wipe(0), 31);
         due("wipe(0) of an empty text", s.wipe(0), 0);
         due("count(0)", s.count(0), 0);
